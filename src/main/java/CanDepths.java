@@ -306,20 +306,17 @@ public final class CanDepths {
         if (thrown == 0) {
             return;
         }
-        for (int a = LEAST_SPACING; a <= MOST_SPACING; a++) {
-            for (int b = LEAST_SPACING; b <= MOST_SPACING; b++) {
-                // A tile has a * b cells for each head that stands in it, so this is TOTAL against NEED times MANY.
-                if (thrown >= need * a * b) {
-                    weigh(thrower, SQUARE, a, b);
-                    weigh(thrower, TRIANGLE, a, b);
+        for (int layout = SQUARE; layout <= TRIANGLE; layout++) {
+            for (int a = LEAST_SPACING; a <= MOST_SPACING; a++) {
+                for (int b = LEAST_SPACING; b <= MOST_SPACING; b++) {
+                    // A tile has a * b cells for each head that stands in it: this is TOTAL against NEED times MANY.
+                    if (thrown >= need * a * b) {
+                        laid.layTile(thrower, layout, a, b);
+                        found.weigh(layout, a, b, laid.even());
+                    }
                 }
             }
         }
-    }
-
-    private void weigh(Head thrower, int layout, int a, int b) {
-        laid.layTile(thrower, layout, a, b);
-        found.weigh(layout, a, b, laid.even());
     }
 
     private static int numberInField(int i, int j) {
