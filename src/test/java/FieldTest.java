@@ -5,6 +5,7 @@ public final class FieldTest {
 
     public static void main(String[] args) {
         fields();
+        fieldsOfWideHeads();
         fieldsOfWhichSomeFailed();
         driest();
         missed();
@@ -30,6 +31,16 @@ public final class FieldTest {
         // What falls outside is not of the field: all cells have 4.
         dueField(round, 2, 2, 2, 2, 0, 9, 36, 4, 4, 1, 1, 1, 1, 0, 0, 0, 27);
         dueField(round, 2, 2, 3, 2, 0, 15, 60, 4, 4, 1, 1, 1, 1, 0, 0, 1, 48);
+    }
+
+    /** Heads that reach across the whole field, where one too many beyond its edge would be seen. */
+    private static void fieldsOfWideHeads() {
+        CanDepths x = Check.with("zzzzzzz/zzzzzzz/zzzzzzz/zzzzzzz/zzzzzzz/zzzzzzz/zzzzzzz");
+        dueField(x, 2, 2, 2, 2, 0, 9, 1260, 140, 140, 1, 1, 1, 1, 0, 0, 0, 945);
+        // One head reaches each of the 4 corners, two 8 cells of the edges, four the 4 in the middle:
+        // 576 - (4 * 20 + 8 * 4 + 4 * 28) by 576, and 16 * 4 by 4 * 36.
+        CanDepths flat = Check.with("11111/11111/11111/11111/11111");
+        dueField(flat, 3, 3, 2, 2, 0, 16, 36, 1, 4, 11, 18, 4, 9, 0, 0, 0, 27);
     }
 
     private static void fieldsOfWhichSomeFailed() {

@@ -155,6 +155,15 @@ public final class HeadsTest {
         dueTold("123/4z4/321", 3, 55, 35, 2, 0);
         dueTold("010/202/010", 3, 6, 2, 2, 1);
         dueTold("111/222/333", 3, 18, 3, 4, 1);
+        // What differs in one corner or in one row alone.
+        dueTold("900/000/000", 3, 9, 9, 4, 0);
+        dueTold("000/000/009", 3, 9, 9, 4, 0);
+        dueTold("101/000/100", 3, 3, 1, 4, 0);
+        dueTold("001/000/101", 3, 3, 1, 4, 0);
+        dueTold("000/100/000", 3, 1, 1, 4, 0);
+        dueTold("000/001/000", 3, 1, 1, 4, 0);
+        dueTold("000/000/100", 3, 1, 1, 4, 0);
+        dueTold("000/000/010", 3, 1, 1, 4, 1);
         dueTold("12003/00020/00z00/02000/30021", 5, 51, 35, 2, 0);
         dueTold("12001/00002/00500/20000/10021", 5, 17, 5, 1, 0);
         dueTold("zzzzzzz/zzzzzzz/zzzzzzz/zzzzzzz/zzzzzzz/zzzzzzz/zzzzzzz", 7, 1715, 35, 1, 1);

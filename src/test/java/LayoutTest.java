@@ -194,6 +194,10 @@ public final class LayoutTest {
         dueBest(Check.with("0000000/0000000/1111000/1111000/1111000/1111000/0000000"), 0, 0, 0, 4, 4, 1, 1);
         // As even as can be at 2 by 3 and at 3 by 2: that of least a.
         dueBest(Check.with("00000/00010/01100/01100/10000"), 0, 0, 0, 2, 3, 1, 1);
+        // At 6 by 6, and as evenly at 3 by 6 and the like by both LAYOUTS.
+        dueBest(Check.with("1111110/1111110/1111110/1111110/1111110/1111110/0000000"), 0, 0, 0, 6, 6, 1, 1);
+        // A spacing of 9 can be the best one, too.
+        dueBest(Check.with("2121120/1000122/0211000/0000110/1101100/0101100/1012202"), 0, 0, 1, 9, 2, 11, 18);
         // 6 of 8 cells are wet by TRIANGLE at 2 by 2, as none do twice; by SQUARE one is wet twice.
         dueBest(Check.with("001/010/100"), 0, 0, 1, 2, 2, 1, 2);
     }
@@ -208,10 +212,8 @@ public final class LayoutTest {
         CHECK.due("best(0, 9, 1)", odd.best(0, 9, 1), 2);
         CHECK.due("best(0, 10, 1)", odd.best(0, 10, 1), none);
         CanDepths deep = Check.with(FULL_7);
-        CHECK.due("best(0, 99, 1)", deep.best(0, 99, 1) == none ? 1 : 0, 0);
-        // 1715 by 99 is 17 cells and a third: a * b is 17 at most.
-        int cells = deep.best(0, 99, 1) * deep.best(0, 99, 2);
-        CHECK.due("best(0, 99, ..) on no more than 17 cells", cells <= 17 ? 1 : 0, 1);
+        // 1715 by 99 is 17 and a third: a * b is 17 at most. At 2 by 7, as at 7 by 2, 4 heads and 3 reach the cells.
+        dueBest(deep, 0, 99, 0, 2, 7, 6, 7);
         dueBest(deep, 0, 35, 0, 7, 7, 1, 1);
     }
 

@@ -55,28 +55,19 @@ public final class TellTest {
     private static void digestByItsWords() {
         CanDepths x = Check.with(Check.SKEW_5, Check.DRY_3, Check.SKEW_7);
         x.turn(2, 1, true);
-        Check.write(x, "12 ~/");
+        dueDigest(x, "12 ~/");
+        // Heads that have a BEST by NEED 0 but not by 1, by 1 but not by 2.
+        dueDigest(Check.with("000/010/000", "00000/01100/01100/00000/00000"), "");
+        dueDigest(Check.with(), "/");
+    }
+
+    private static void dueDigest(CanDepths x, String letters) {
+        Check.write(x, letters);
         long h = 1621;
-        for (int head = 0; head < 4; head++) {
-            for (int what = 0; what <= 4; what++) {
-                h = mix(h, x.head(head, what));
-            }
-            int reach = (x.head(head, 0) - 1) / 2;
-            for (int y = reach; y >= -reach; y--) {
-                for (int right = -reach; right <= reach; right++) {
-                    h = mix(h, x.depth(head, right, y));
-                }
-            }
-            for (int layout = 0; layout <= 1; layout++) {
-                for (int what = 0; what <= 7; what++) {
-                    h = mix(h, x.tile(head, layout, 4, 3, what));
-                }
-            }
-            for (int what = 0; what <= 4; what++) {
-                h = mix(h, x.best(head, 1, what));
-            }
+        for (int head = 0; head < x.count(0); head++) {
+            h = mixHead(h, x, head);
         }
-        for (char letter : "12 ~/".toCharArray()) {
+        for (char letter : letters.toCharArray()) {
             h = mix(h, letter);
         }
         for (int what = 0; what <= 5; what++) {
@@ -84,6 +75,27 @@ public final class TellTest {
         }
         CHECK.due("digest()", x.digest(), h);
         CHECK.due("digest() again", x.digest(), h);
+    }
+
+    private static long mixHead(long h, CanDepths x, int head) {
+        for (int what = 0; what <= 4; what++) {
+            h = mix(h, x.head(head, what));
+        }
+        int reach = (x.head(head, 0) - 1) / 2;
+        for (int y = reach; y >= -reach; y--) {
+            for (int right = -reach; right <= reach; right++) {
+                h = mix(h, x.depth(head, right, y));
+            }
+        }
+        for (int layout = 0; layout <= 1; layout++) {
+            for (int what = 0; what <= 7; what++) {
+                h = mix(h, x.tile(head, layout, 4, 3, what));
+            }
+        }
+        for (int what = 0; what <= 4; what++) {
+            h = mix(h, x.best(head, 1, what));
+        }
+        return h;
     }
 
     private static void digestTellsThingsApart() {
