@@ -196,6 +196,8 @@ public final class LayoutTest {
         dueBest(Check.with("00000/00010/01100/01100/10000"), 0, 0, 0, 2, 3, 1, 1);
         // At 6 by 6, and as evenly at 3 by 6 and the like by both LAYOUTS.
         dueBest(Check.with("1111110/1111110/1111110/1111110/1111110/1111110/0000000"), 0, 0, 0, 6, 6, 1, 1);
+        // As even by TRIANGLE at 2 by 3 as by SQUARE at 3 by 2: least a goes ahead of SQUARE.
+        dueBest(Check.with("10000/01000/02100/10000/00000"), 0, 0, 1, 2, 3, 2, 3);
         // A spacing of 9 can be the best one, too.
         dueBest(Check.with("2121120/1000122/0211000/0000110/1101100/0101100/1012202"), 0, 0, 1, 9, 2, 11, 18);
         // 6 of 8 cells are wet by TRIANGLE at 2 by 2, as none do twice; by SQUARE one is wet twice.
