@@ -63,6 +63,39 @@ final class Check {
         }
     }
 
+    void dueCounts(String when, CanDepths x, int... want) {
+        for (int what = 0; what < want.length; what++) {
+            due("count(" + what + ") " + when, x.count(what), want[what]);
+        }
+    }
+
+    void dueTile(CanDepths x, int head, int layout, int a, int b, int... want) {
+        for (int what = 0; what < want.length; what++) {
+            String call = "tile(" + head + ", " + layout + ", " + a + ", " + b + ", " + what + ")";
+            due(call, x.tile(head, layout, a, b, what), want[what]);
+        }
+    }
+
+    void dueInTurns(CanDepths x, int one, int other, int a, int b, int... want) {
+        for (int what = 0; what < want.length; what++) {
+            String call = "byTurns(" + one + ", " + other + ", " + a + ", " + b + ", " + what + ")";
+            due(call, x.byTurns(one, other, a, b, what), want[what]);
+        }
+    }
+
+    void dueBest(CanDepths x, int head, int need, int... want) {
+        for (int what = 0; what < want.length; what++) {
+            due("best(" + head + ", " + need + ", " + what + ")", x.best(head, need, what), want[what]);
+        }
+    }
+
+    void dueField(CanDepths x, int a, int b, int m, int n, int failed, int... want) {
+        for (int what = 0; what < want.length; what++) {
+            String call = "field(0, " + a + ", " + b + ", " + m + ", " + n + ", " + failed + ", " + what + ")";
+            due(call, x.field(0, a, b, m, n, failed, what), want[what]);
+        }
+    }
+
     /** That a call that was refused has changed nothing that is told. */
     void dueRefused(String call, CanDepths x, long before, long got, long want) {
         due(call, got, want);

@@ -15,42 +15,35 @@ public final class FieldTest {
         CHECK.end();
     }
 
-    private static void dueField(CanDepths x, int a, int b, int m, int n, int failed, int... want) {
-        for (int what = 0; what < want.length; what++) {
-            String call = "field(0, " + a + ", " + b + ", " + m + ", " + n + ", " + failed + ", " + what + ")";
-            CHECK.due(call, x.field(0, a, b, m, n, failed, what), want[what]);
-        }
-    }
-
     private static void fields() {
         CanDepths dot = Check.with("000/010/000");
         // 9 cells, a head in each corner: 36 - (4 * 5 + 5 * 4) by 36.
-        dueField(dot, 2, 2, 2, 2, 0, 9, 4, 0, 1, -1, 9, 0, 1, 1, 0, 0, 3);
-        dueField(dot, 9, 9, 3, 3, 0, 361, 9, 0, 1, -343, 361, 0, 1, 1, 0, 0, 8);
+        CHECK.dueField(dot, 2, 2, 2, 2, 0, 9, 4, 0, 1, -1, 9, 0, 1, 1, 0, 0, 3);
+        CHECK.dueField(dot, 9, 9, 3, 3, 0, 361, 9, 0, 1, -343, 361, 0, 1, 1, 0, 0, 8);
         CanDepths round = Check.with(Check.ROUND_3);
         // What falls outside is not of the field: all cells have 4.
-        dueField(round, 2, 2, 2, 2, 0, 9, 36, 4, 4, 1, 1, 1, 1, 0, 0, 0, 27);
-        dueField(round, 2, 2, 3, 2, 0, 15, 60, 4, 4, 1, 1, 1, 1, 0, 0, 1, 48);
+        CHECK.dueField(round, 2, 2, 2, 2, 0, 9, 36, 4, 4, 1, 1, 1, 1, 0, 0, 0, 27);
+        CHECK.dueField(round, 2, 2, 3, 2, 0, 15, 60, 4, 4, 1, 1, 1, 1, 0, 0, 1, 48);
     }
 
     /** Heads that reach across the whole field, where one too many beyond its edge would be seen. */
     private static void fieldsOfWideHeads() {
         CanDepths x = Check.with("zzzzzzz/zzzzzzz/zzzzzzz/zzzzzzz/zzzzzzz/zzzzzzz/zzzzzzz");
-        dueField(x, 2, 2, 2, 2, 0, 9, 1260, 140, 140, 1, 1, 1, 1, 0, 0, 0, 945);
+        CHECK.dueField(x, 2, 2, 2, 2, 0, 9, 1260, 140, 140, 1, 1, 1, 1, 0, 0, 0, 945);
         // One head reaches each of the 4 corners, two 8 cells of the edges, four the 4 in the middle:
         // 576 - (4 * 20 + 8 * 4 + 4 * 28) by 576, and 16 * 4 by 4 * 36.
         CanDepths flat = Check.with("11111/11111/11111/11111/11111");
-        dueField(flat, 3, 3, 2, 2, 0, 16, 36, 1, 4, 11, 18, 4, 9, 0, 0, 0, 27);
+        CHECK.dueField(flat, 3, 3, 2, 2, 0, 16, 36, 1, 4, 11, 18, 4, 9, 0, 0, 0, 27);
     }
 
     private static void fieldsOfWhichSomeFailed() {
         CanDepths round = Check.with(Check.ROUND_3);
         // What the head at (0, 0) threw is gone, which leaves 0 2 4, 2 3 4, 4 4 4 upwards:
         // 243 - (27 + 2 * 9 + 5 * 9) by 243, and 9 * (0 + 2 + 2) by 3 * 27.
-        dueField(round, 2, 2, 2, 2, 1, 9, 27, 0, 4, 17, 27, 4, 9, 0, 0, 1, 18);
+        CHECK.dueField(round, 2, 2, 2, 2, 1, 9, 27, 0, 4, 17, 27, 4, 9, 0, 0, 1, 18);
         // Without the one in the middle of nine: 16 cells of 4 about 3 2 3, 2 0 2, 3 2 3:
         // 2100 - (16 * 16 + 4 * 9 + 4 * 34 + 84) by 2100, and 25 * (0 + 4 * 2 + 2 * 3) by 7 * 84.
-        dueField(round, 2, 2, 3, 3, 16, 25, 84, 0, 4, 397, 525, 25, 42, 2, 2, 1, 72);
+        CHECK.dueField(round, 2, 2, 3, 3, 16, 25, 84, 0, 4, 397, 525, 25, 42, 2, 2, 1, 72);
     }
 
     private static void driest() {
@@ -91,10 +84,10 @@ public final class FieldTest {
 
     private static void allFailed() {
         CanDepths x = Check.with(Check.SKEW_7);
-        dueField(x, 3, 4, 2, 2, 27, 20, 0, 0, 0, NONE, NONE, NONE, NONE, 0, 0, NONE, NONE);
-        dueField(x, 3, 4, 3, 3, 511, 63, 0, 0, 0, NONE, NONE, NONE, NONE, 0, 0, NONE, NONE);
-        dueField(x, 2, 9, 3, 2, 63, 50, 0, 0, 0, NONE, NONE, NONE, NONE, 0, 0, NONE, NONE);
-        dueField(x, 2, 9, 2, 3, 219, 57, 0, 0, 0, NONE, NONE, NONE, NONE, 0, 0, NONE, NONE);
+        CHECK.dueField(x, 3, 4, 2, 2, 27, 20, 0, 0, 0, NONE, NONE, NONE, NONE, 0, 0, NONE, NONE);
+        CHECK.dueField(x, 3, 4, 3, 3, 511, 63, 0, 0, 0, NONE, NONE, NONE, NONE, 0, 0, NONE, NONE);
+        CHECK.dueField(x, 2, 9, 3, 2, 63, 50, 0, 0, 0, NONE, NONE, NONE, NONE, 0, 0, NONE, NONE);
+        CHECK.dueField(x, 2, 9, 2, 3, 219, 57, 0, 0, 0, NONE, NONE, NONE, NONE, 0, 0, NONE, NONE);
     }
 
     private static void everyBitOfFailed() {

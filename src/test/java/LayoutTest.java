@@ -24,8 +24,8 @@ public final class LayoutTest {
 
     /** A head that wets its own cell alone shows where the heads stand. */
     private static void groundOfADot() {
-        CanDepths x = Check.with(DOT);
         for (int y = -50; y <= 50; y++) {
+            CanDepths x = Check.with(DOT);
             for (int right = -50; right <= 50; right++) {
                 boolean onRow = Math.floorMod(y, 3) == 0;
                 int want = onRow && Math.floorMod(right, 5) == 0 ? 1 : 0;
@@ -71,38 +71,31 @@ public final class LayoutTest {
         }
     }
 
-    private static void dueTile(CanDepths x, int head, int layout, int a, int b, int... want) {
-        for (int what = 0; what <= 7; what++) {
-            String call = "tile(" + head + ", " + layout + ", " + a + ", " + b + ", " + what + ")";
-            CHECK.due(call, x.tile(head, layout, a, b, what), want[what]);
-        }
-    }
-
     private static void tiles() {
         CanDepths x = Check.with(Check.ROUND_3, DOT, FULL_7);
-        dueTile(x, 0, 0, 2, 2, 4, 16, 4, 4, 1, 1, 1, 1);
+        CHECK.dueTile(x, 0, 0, 2, 2, 4, 16, 4, 4, 1, 1, 1, 1);
         // 9 cells: 4, four of 2, four of 1; 9 * 16 - (20 + 4 * 2 + 4 * 7) = 88 by 144; 9 * 3 by 3 * 16.
-        dueTile(x, 0, 0, 3, 3, 9, 16, 1, 4, 11, 18, 9, 16);
+        CHECK.dueTile(x, 0, 0, 3, 3, 9, 16, 1, 4, 11, 18, 9, 16);
         // One cell of 4 is wet: 4 - (3 + 3) by 4; a quarter of 4 cells is 1.
-        dueTile(x, 1, 0, 2, 2, 4, 1, 0, 1, -1, 2, 0, 1);
+        CHECK.dueTile(x, 1, 0, 2, 2, 4, 1, 0, 1, -1, 2, 0, 1);
         // Two cells of 8 are wet: 16 - (2 * 6 + 6 * 2) by 16.
-        dueTile(x, 1, 1, 2, 2, 8, 2, 0, 1, -1, 2, 0, 1);
-        dueTile(x, 1, 0, 9, 9, 81, 1, 0, 1, -79, 81, 0, 1);
-        dueTile(x, 1, 1, 9, 9, 162, 2, 0, 1, -79, 81, 0, 1);
+        CHECK.dueTile(x, 1, 1, 2, 2, 8, 2, 0, 1, -1, 2, 0, 1);
+        CHECK.dueTile(x, 1, 0, 9, 9, 81, 1, 0, 1, -79, 81, 0, 1);
+        CHECK.dueTile(x, 1, 1, 9, 9, 162, 2, 0, 1, -79, 81, 0, 1);
         // Of 9, 12, 12 and 16 heads, 315, 420, 420, 560: 6860 - (455 + 35 + 35 + 525) by 6860; 4 * 315 by 1715.
-        dueTile(x, 2, 0, 2, 2, 4, 1715, 315, 560, 83, 98, 36, 49);
+        CHECK.dueTile(x, 2, 0, 2, 2, 4, 1715, 315, 560, 83, 98, 36, 49);
         CanDepths other = Check.with("000/123/000", "111/222/333");
         // 2 3 1 below a dry row: 36 - (6 + 12 + 0 + 3 * 6) by 36 is 0 by 1.
-        dueTile(other, 0, 0, 3, 2, 6, 6, 0, 3, 0, 1, 0, 1);
+        CHECK.dueTile(other, 0, 0, 3, 2, 6, 6, 0, 3, 0, 1, 0, 1);
         // 2 2 2 below 4 4 4: 108 - 6 * 6 by 108; a quarter of 6 cells, rounded up, is 2: 6 * 4 by 2 * 18.
-        dueTile(other, 1, 0, 3, 2, 6, 18, 2, 4, 2, 3, 2, 3);
+        CHECK.dueTile(other, 1, 0, 3, 2, 6, 18, 2, 4, 2, 3, 2, 3);
     }
 
     private static void tileThatIsDry() {
         CanDepths x = Check.with(Check.DRY_3);
         int none = CanDepths.NONE;
-        dueTile(x, 0, 0, 3, 4, 12, 0, 0, 0, none, none, none, none);
-        dueTile(x, 0, 1, 3, 4, 24, 0, 0, 0, none, none, none, none);
+        CHECK.dueTile(x, 0, 0, 3, 4, 12, 0, 0, 0, none, none, none, none);
+        CHECK.dueTile(x, 0, 1, 3, 4, 24, 0, 0, 0, none, none, none, none);
         for (int what = 4; what <= 7; what++) {
             CHECK.due("byTurns of dry heads", x.byTurns(0, 0, 2, 2, what), none);
         }
@@ -127,20 +120,13 @@ public final class LayoutTest {
         }
     }
 
-    private static void dueInTurns(CanDepths x, int one, int other, int a, int b, int... want) {
-        for (int what = 0; what <= 7; what++) {
-            String call = "byTurns(" + one + ", " + other + ", " + a + ", " + b + ", " + what + ")";
-            CHECK.due(call, x.byTurns(one, other, a, b, what), want[what]);
-        }
-    }
-
     private static void inTurns() {
         CanDepths x = Check.with("000/010/000", "000/020/000", "000/000/001", Check.DRY_3);
         // 16 cells, of which two are 1 and two are 2: 96 - (2 * 10 + 2 * 26 + 12 * 6) by 96.
-        dueInTurns(x, 0, 1, 2, 2, 16, 6, 0, 2, -1, 2, 0, 1);
-        dueInTurns(x, 1, 0, 2, 2, 16, 6, 0, 2, -1, 2, 0, 1);
-        dueInTurns(x, 0, 0, 9, 9, 324, 4, 0, 1, -79, 81, 0, 1);
-        dueInTurns(x, 0, 3, 3, 2, 24, 2, 0, 1, -5, 6, 0, 1);
+        CHECK.dueInTurns(x, 0, 1, 2, 2, 16, 6, 0, 2, -1, 2, 0, 1);
+        CHECK.dueInTurns(x, 1, 0, 2, 2, 16, 6, 0, 2, -1, 2, 0, 1);
+        CHECK.dueInTurns(x, 0, 0, 9, 9, 324, 4, 0, 1, -79, 81, 0, 1);
+        CHECK.dueInTurns(x, 0, 3, 3, 2, 24, 2, 0, 1, -5, 6, 0, 1);
         // Diagonal heads lie over one another only if they are of different kinds or of the same row.
         CanDepths wide = Check.with("00000/00000/00100/00000/00000", "00000/00000/10001/00000/00000");
         CHECK.due("byTurns(0, 1, 2, 2, 3)", wide.byTurns(0, 1, 2, 2, 3), 3);
@@ -168,55 +154,49 @@ public final class LayoutTest {
         }
     }
 
-    private static void dueBest(CanDepths x, int head, int need, int... want) {
-        for (int what = 0; what <= 4; what++) {
-            CHECK.due("best(" + head + ", " + need + ", " + what + ")", x.best(head, need, what), want[what]);
-        }
-    }
-
     private static void best() {
         CanDepths x = Check.with(Check.ROUND_3, Check.SKEW_7);
-        dueBest(x, 0, 0, 0, 2, 2, 1, 1);
-        dueBest(x, 1, 1, 1, 2, 2, 55, 62);
-        dueBest(x, 1, 3, 1, 2, 2, 55, 62);
+        CHECK.dueBest(x, 0, 0, 0, 2, 2, 1, 1);
+        CHECK.dueBest(x, 1, 1, 1, 2, 2, 55, 62);
+        CHECK.dueBest(x, 1, 3, 1, 2, 2, 55, 62);
         int none = CanDepths.NONE;
         CanDepths dry = Check.with(Check.DRY_3);
-        dueBest(dry, 0, 0, none, none, none, none, none);
-        dueBest(dry, 0, 1, none, none, none, none, none);
+        CHECK.dueBest(dry, 0, 0, none, none, none, none, none);
+        CHECK.dueBest(dry, 0, 1, none, none, none, none, none);
     }
 
     private static void bestOfLikeOnes() {
         // As even as can be at 3 by 3, by SQUARE and by TRIANGLE: SQUARE.
-        dueBest(Check.with("111/111/111"), 0, 0, 0, 3, 3, 1, 1);
-        dueBest(Check.with("11111/11111/11111/11111/11111"), 0, 0, 0, 5, 5, 1, 1);
-        dueBest(Check.with("00000/01100/01100/00000/00000"), 0, 0, 0, 2, 2, 1, 1);
+        CHECK.dueBest(Check.with("111/111/111"), 0, 0, 0, 3, 3, 1, 1);
+        CHECK.dueBest(Check.with("11111/11111/11111/11111/11111"), 0, 0, 0, 5, 5, 1, 1);
+        CHECK.dueBest(Check.with("00000/01100/01100/00000/00000"), 0, 0, 0, 2, 2, 1, 1);
         // As even as can be at 2 by 2, 2 by 4, 4 by 2 and 4 by 4: that of greatest a * b.
-        dueBest(Check.with("0000000/0000000/1111000/1111000/1111000/1111000/0000000"), 0, 0, 0, 4, 4, 1, 1);
+        CHECK.dueBest(Check.with("0000000/0000000/1111000/1111000/1111000/1111000/0000000"), 0, 0, 0, 4, 4, 1, 1);
         // As even as can be at 2 by 3 and at 3 by 2: that of least a.
-        dueBest(Check.with("00000/00010/01100/01100/10000"), 0, 0, 0, 2, 3, 1, 1);
+        CHECK.dueBest(Check.with("00000/00010/01100/01100/10000"), 0, 0, 0, 2, 3, 1, 1);
         // At 6 by 6, and as evenly at 3 by 6 and the like by both LAYOUTS.
-        dueBest(Check.with("1111110/1111110/1111110/1111110/1111110/1111110/0000000"), 0, 0, 0, 6, 6, 1, 1);
+        CHECK.dueBest(Check.with("1111110/1111110/1111110/1111110/1111110/1111110/0000000"), 0, 0, 0, 6, 6, 1, 1);
         // As even by TRIANGLE at 2 by 3 as by SQUARE at 3 by 2: least a goes ahead of SQUARE.
-        dueBest(Check.with("10000/01000/02100/10000/00000"), 0, 0, 1, 2, 3, 2, 3);
+        CHECK.dueBest(Check.with("10000/01000/02100/10000/00000"), 0, 0, 1, 2, 3, 2, 3);
         // A spacing of 9 can be the best one, too.
-        dueBest(Check.with("2121120/1000122/0211000/0000110/1101100/0101100/1012202"), 0, 0, 1, 9, 2, 11, 18);
+        CHECK.dueBest(Check.with("2121120/1000122/0211000/0000110/1101100/0101100/1012202"), 0, 0, 1, 9, 2, 11, 18);
         // 6 of 8 cells are wet by TRIANGLE at 2 by 2, as none do twice; by SQUARE one is wet twice.
-        dueBest(Check.with("001/010/100"), 0, 0, 1, 2, 2, 1, 2);
+        CHECK.dueBest(Check.with("001/010/100"), 0, 0, 1, 2, 2, 1, 2);
     }
 
     private static void needs() {
         CanDepths x = Check.with(Check.ROUND_3);
-        dueBest(x, 0, 4, 0, 2, 2, 1, 1);
+        CHECK.dueBest(x, 0, 4, 0, 2, 2, 1, 1);
         int none = CanDepths.NONE;
-        dueBest(x, 0, 5, none, none, none, none, none);
+        CHECK.dueBest(x, 0, 5, none, none, none, none, none);
         // 37 on 4 cells is 9 on each and more.
         CanDepths odd = Check.with("000/0z2/000");
         CHECK.due("best(0, 9, 1)", odd.best(0, 9, 1), 2);
         CHECK.due("best(0, 10, 1)", odd.best(0, 10, 1), none);
         CanDepths deep = Check.with(FULL_7);
         // 1715 by 99 is 17 and a third: a * b is 17 at most. At 2 by 7, as at 7 by 2, 4 heads and 3 reach the cells.
-        dueBest(deep, 0, 99, 0, 2, 7, 6, 7);
-        dueBest(deep, 0, 35, 0, 7, 7, 1, 1);
+        CHECK.dueBest(deep, 0, 99, 0, 2, 7, 6, 7);
+        CHECK.dueBest(deep, 0, 35, 0, 7, 7, 1, 1);
     }
 
     private static void refusedBest() {

@@ -15,9 +15,7 @@ public final class PageTest {
 
     private static void newObject() {
         CanDepths x = new CanDepths();
-        for (int what = 0; what <= 5; what++) {
-            CHECK.due("count(" + what + ") of a new object", x.count(what), 0);
-        }
+        CHECK.dueCounts("of a new object", x, 0, 0, 0, 0, 0, 0);
         CHECK.due("head(0, 0) of a new object", x.head(0, 0), CanDepths.UNKNOWN);
         CHECK.due("fault() of a new object", x.fault(), 0);
         CHECK.due("blank() of a new object", x.blank(), 0);

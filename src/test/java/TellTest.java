@@ -10,35 +10,29 @@ public final class TellTest {
         CHECK.end();
     }
 
-    private static void dueCounts(String when, CanDepths x, int... want) {
-        for (int what = 0; what <= 5; what++) {
-            CHECK.due("count(" + what + ") " + when, x.count(what), want[what]);
-        }
-    }
-
     private static void counts() {
         CanDepths x = new CanDepths();
-        dueCounts("at first", x, 0, 0, 0, 0, 0, 0);
+        CHECK.dueCounts("at first", x, 0, 0, 0, 0, 0, 0);
         Check.write(x, "123/456/789");
-        dueCounts("behind letters", x, 0, 11, 0, 0, 0, 0);
+        CHECK.dueCounts("behind letters", x, 0, 11, 0, 0, 0, 0);
         x.take();
-        dueCounts("behind take", x, 1, 0, 1, 0, 0, 45);
+        CHECK.dueCounts("behind take", x, 1, 0, 1, 0, 0, 45);
         x.turn(0, 0, false);
-        dueCounts("behind turn", x, 2, 0, 1, 1, 0, 90);
+        CHECK.dueCounts("behind turn", x, 2, 0, 1, 1, 0, 90);
         x.bend(1, 1, 0);
-        dueCounts("behind bend", x, 2, 0, 1, 1, 0, 72);
+        CHECK.dueCounts("behind bend", x, 2, 0, 1, 1, 0, 72);
         x.drop(0);
-        dueCounts("behind drop", x, 1, 0, 1, 1, 1, 27);
+        CHECK.dueCounts("behind drop", x, 1, 0, 1, 1, 1, 27);
         x.drop(0);
         x.drop(0);
-        dueCounts("behind a refused drop", x, 0, 0, 1, 1, 2, 0);
+        CHECK.dueCounts("behind a refused drop", x, 0, 0, 1, 1, 2, 0);
         for (int i = 0; i < 4; i++) {
             Check.takeText(x, Check.DRY_3);
         }
         Check.takeText(x, "1a1/111/11");
         x.letter('/');
         x.turn(0, 1, true);
-        dueCounts("with 4 heads", x, 4, 11, 5, 1, 2, 0);
+        CHECK.dueCounts("with 4 heads", x, 4, 11, 5, 1, 2, 0);
     }
 
     private static void refusedCounts() {
