@@ -455,9 +455,10 @@ public final class CanDepths {
             return (side - 1) / 2;
         }
 
+        // Told without calls of its own: those of the digest are seven deep here, of the eight that may be.
         int depthAt(int x, int y) {
-            int reach = reach();
-            if (!isWithin(x, -reach, reach) || !isWithin(y, -reach, reach)) {
+            int reach = (side - 1) / 2;
+            if (x < -reach || x > reach || y < -reach || y > reach) {
                 return 0;
             }
             return depths[(reach - y) * side + reach + x];
